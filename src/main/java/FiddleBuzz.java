@@ -1011,7 +1011,6 @@ public final class FiddleBuzz {
                 bytes[i] = text.valueAt(i);
             }
             at = 0;
-            place = 0;
         }
 
         /** Reads all of the text: how many STATEMENTS; below 0: it is at fault at the byte that comes next. */

@@ -226,6 +226,7 @@ public final class PromisesTest {
     y.wax(0, 20);
     due("WAX: TONE NOW 80", y.swing(0, 80, 7), 70);
     due("at 1200", y.swing(0, 1200, 99), 9900 / 1130);
+    due("at 1", y.swing(0, 1, 99), 9900 / 89);
     due("no PIECE", y.swing(2, 100, 7), -1);
     due("f 0", y.swing(0, 0, 7), -1);
     due("f 1201", y.swing(0, 1201, 7), -1);
@@ -327,6 +328,9 @@ public final class PromisesTest {
     due("the highest", x.loudest(3, 99), 600);
     x.wax(0, 20);
     due("WAX", x.loudest(0, 9), 80);
+    FiddleBuzz y = with("p10 99 1;");
+    y.wax(0, 20);
+    due("TONE NOW 1: from 1 on, not from 0", y.loudest(0, 1), 1);
     due("no PIECE", x.loudest(4, 9) + x.loudest(-1, 9), -2);
     due("STRONG", x.loudest(0, 0) + x.loudest(0, 100), -2);
   }
@@ -336,6 +340,7 @@ public final class PromisesTest {
     due("softest: 20 STRONG above 50", x.softest(0, 100), 3);
     due("softest 1", x.softest(1, 100), 1);
     due("off by 1000", x.softest(1, 1095), 20);
+    due("off by 1095: 9900 by 1100", with("p100 5 40;t00 8 0 1;").softest(0, 1195), 99);
     due("never", x.softest(2, 100), -4);
     due("never so far off", x.softest(0, 1200), -4);
     due("no THING", x.softest(3, 100) + x.softest(-1, 100), -2);
@@ -581,6 +586,8 @@ public final class PromisesTest {
     due("too far off", x.seamOrCrack(0, 1, 1200), -4);
     x.set(0, 20);
     due("as it is now: 10, 5", x.seamOrCrack(0, 1, 200), 7);
+    due("at STRONG 1: 20", with("p100 5 40;t00 19 0 1;t00 20 0 1;").seamOrCrack(0, 1, 100), 1);
+    due("at STRONG 99: 9900 by 990", with("p100 5 40;t00 10 0 1;t00 9 0 1;").seamOrCrack(0, 1, 1085), 99);
     due("one twice", x.seamOrCrack(1, 1, 100), -1);
     due("not on one PIECE", x.seamOrCrack(0, 2, 100), -1);
     due("no THING", x.seamOrCrack(0, 4, 100) + x.seamOrCrack(-1, 0, 100), -2);
@@ -667,6 +674,7 @@ public final class PromisesTest {
     due("1 apart", x.beats(2), 600);
     due("3 apart", x.beats(3), 200);
     due("none more", x.beats(4), -4);
+    due("of 2 and 3", with("p100 5 40;p200 5 40;p300 5 40;p304 5 40j2 5;p500 5 40j1 5;").beats(0), 150);
     due("i", x.beats(-1) + x.beats(LOW), -2);
     x.wax(1, 2);
     due("TONES NOW: 103", x.beats(0), 200);
@@ -690,6 +698,10 @@ public final class PromisesTest {
     FiddleBuzz z = with("p100 5 40;p100 5 40j0 5;");
     z.wax(0, 20);
     due("no WOLF with 0 on PIECE 1, as it is", z.ends(0) * 10 + z.ends(1), 1);
+    FiddleBuzz v = with("p21 5 99;p25 5 99j0 5;");
+    due("no n up to 19, 20 on PIECE 0: 21 to 20 is 5 off", v.ends(0) * 10 + v.ends(1), -44);
+    FiddleBuzz u = with("p55 5 99;p56 5 99j0 5;");
+    due("n 20 alone: 55 to 50 is 6 off", u.ends(0) * 10 + u.ends(1), 200);
     FiddleBuzz w = with("p60 5 40;p62 5 40j0 5;");
     due("n 5 on PIECE 0 ends it", w.ends(0) * 10 + w.ends(1), 60);
   }
@@ -743,6 +755,11 @@ public final class PromisesTest {
     due("more", x.hair(1, 100, 5, 9), 9);
     due("less", x.hair(1, 100, 5, -9), -9);
     due("not joined", x.hair(0, 100, 5, 9), 0);
+    x.hand(0);
+    x.wax(0, 20);
+    due("HAND, WAX as they are", x.hair(1, 80, 6, 9), 5);
+    x.hand(-1);
+    x.wax(0, 0);
     due("beyond 9", x.hair(1, 100, 5, 10), FAR - 3);
     due("beyond -9", x.hair(1, 100, 5, -10), FAR - 3);
     x.set(3, -9);
