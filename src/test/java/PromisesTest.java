@@ -281,6 +281,8 @@ public final class PromisesTest {
     due("as much as it takes is not above", x.buzzes(1, 900, 5, 2), 0);
     due("above", x.buzzes(1, 900, 6, 2), 1);
     due("WITHIN: 140 and 210, by 4, cut", x.buzzes(2, 100, 7, 0), 87);
+    due("WITHIN: 7 and 10, by 4, cut", x.buzzes(2, 109, 1, 0), 4);
+    due("WITHIN: 15, by 4, cut", with("p100 5 40;t00 5 9 5;t50 5 0 5;").buzzes(1, 135, 6, 0), 3);
     due("a PLAYER is nothing to a room", x.set(1, 1) + x.buzzes(0, 100, 7, 0), 0);
   }
 
@@ -478,6 +480,7 @@ public final class PromisesTest {
     x.ask(100, 5, false);
     due("none FITS", x.which(), -4);
     due("no THINGS", new FiddleBuzz().which(), -4);
+    due("the first, CHANCE 1", with("p100 5 40;t00 50 0 1;t00 50 0 1;").which(), 0);
   }
 
   private static void p20Next() {
@@ -523,6 +526,11 @@ public final class PromisesTest {
     due("a THING", x.fewest(7, 5), -12);
     x.ask(300, 5, true);
     due("one is left", x.fewest(1, 5), 0);
+    x.forget();
+    x.ask(100, 4, true);
+    due("the first is left", x.fits() * 10 + x.fewest(1, 5), 10);
+    x.forget();
+    x.ask(300, 5, true);
     x.ask(300, 5, false);
     due("none FITS", x.fewest(1, 5), -4);
     due("none FITS, refused ahead of it", x.fewest(4, 5), -13);
@@ -632,7 +640,8 @@ public final class PromisesTest {
     due("price", x.friday(1, 5, 0), 5 + 8 + 15 + 2 + 48);
     due("set", x.friday(1, 5, 1), 31);
     x.set(1, 1);
-    due("WORN for nothing", x.friday(1, 5, 0), 78);
+    fill(x, 4, 1, rowOf(100, 900));
+    due("WORN for nothing", x.friday(4, 5, 0), 78);
     due("WORN in the set", x.friday(1, 5, 1), 95);
     fill(x, 2, 2, rowOf());
     due("no tones", x.friday(2, 5, 0) + x.friday(2, 5, 1), 0);
@@ -675,6 +684,7 @@ public final class PromisesTest {
     due("3 apart", x.beats(3), 200);
     due("none more", x.beats(4), -4);
     due("of 2 and 3", with("p100 5 40;p200 5 40;p300 5 40;p304 5 40j2 5;p500 5 40j1 5;").beats(0), 150);
+    due("of 4 and 5", with("p10 5 40;p20 5 40;p30 5 40;p40 5 40;p50 5 40;p52 5 40j4 5;").beats(0), 300);
     due("i", x.beats(-1) + x.beats(LOW), -2);
     x.wax(1, 2);
     due("TONES NOW: 103", x.beats(0), 200);
@@ -711,6 +721,8 @@ public final class PromisesTest {
     fill(x, 1, 1, rowOf(900, 50, 100, 300, 101));
     due("how many: 100 and 300", x.rattles(1, 5, 0), 2);
     due("which, the least of several", x.rattles(1, 5, 1), 12);
+    fill(x, 2, 1, rowOf(100, 900));
+    due("the first tone", x.rattles(2, 5, 1), 1);
     fill(x, 2, 1, rowOf(900, 901));
     due("nothing to find", x.rattles(2, 5, 0) * 10 + x.rattles(2, 5, 1), 0);
     fill(x, 3, 0, rowOf());
