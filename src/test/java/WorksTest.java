@@ -43,6 +43,11 @@ public final class WorksTest {
     Bench.fill(all, 7, 1, 1, 1200);
     friday(all, "1 and 1200 are tones", 1, 0, 0);
     friday(new0(), "no THINGS", 99, 0, 0);
+    FiddleBuzz low = with("p10 1 1;t00 5 0 1;");
+    Bench.fill(low, 7, 1);
+    friday(low, "no tone 0 where none is told", 50, 0, 0);
+    Bench.fill(low, 7, 1, 1200);
+    friday(low, "nor beside one", 50, 0, 0);
     sentence("FRIDAY by the ROW in SHELF d at STRONG: the price (what 0), the set (1). -1, -11, -12 (no ROW), -13 (no tone 1 .. 1200).");
     Bench.fill(all, 7, 1, 100, 0);
     due("0 is none", all.friday(7, 1, 0), -13);
@@ -80,6 +85,11 @@ public final class WorksTest {
     due("none apart", with("p100 1 1;p100 1 1j0 0;").wolf(0), 1);
     due("not joined", with("p100 1 1;p100 1 1;").wolf(-1), 0);
     due("both joined to another", with("p300 1 1;p100 1 1j0 9;p100 1 1j0 9;").wolf(-1), 0);
+    FiddleBuzz lowest = with("p10 1 1;p300 1 1;");
+    lowest.wax(0, 20);
+    due("TONE NOW 1, joined to none", lowest.wolf(-1), 0);
+    due("so there is no first", lowest.wolf(0), -4);
+    due("nor BEATS", lowest.beats(0), -4);
     FiddleBuzz x = with("p100 1 1;p100 1 1;p100 1 1j1 9;p100 1 1j0 9;p100 1 1j1 9;p100 1 1j0 9;p100 1 1j3 9;");
     int[] pairs = {3, 5, 12, 14, 36};
     due("five", x.wolf(-1), 5);
@@ -179,6 +189,10 @@ public final class WorksTest {
     rattles(x, "-1 is none", -13, -13, -1);
     x.wax(0, 1);
     rattles(x, "as it is now: TONE NOW 67", 1, 2, 100, 67);
+    // At 101 both SWING by 50.
+    FiddleBuzz two = with("p100 1 1;p102 1 1;t00 45 0 1;t01 45 0 1;");
+    rattles(two, "101 finds both", 1, 4, 100, 102, 101);
+    rattles(two, "without it two are wanted", 2, 3, 100, 102);
     rattles(with("p10 1 1;t00 5 0 1;"), "no tone 0 beside one told", 0, 0, 1200);
     FiddleBuzz seven = with("p100 1 1;p200 1 1;p300 1 1;p400 1 1;p500 1 1;p600 1 1;p50 1 1;", "t00 50 0 1;t01 50 0 1;t02 50 0 1;t03 50 0 1;t04 50 0 1;t05 50 0 1;t06 50 0 1;");
     rattles(seven, "seven, one each", 7, 0b1110110101, 100, 110, 200, 120, 300, 400, 130, 500, 600, 50);
@@ -339,6 +353,12 @@ public final class WorksTest {
     for (int what = 0; what < 4; what++) due("set " + what, x.set(what, 0), new int[] {4, 1, 2, -5}[what]);
     due("HAND", x.hand(-1), 1);
     due("the ASK as it was", x.fits(), 1);
+    FiddleBuzz w = with("p100 1 1;t50 1 0 1;");
+    w.image();
+    Bench.read(w, "p100 1 1;p100 1 1;p100 1 1;");
+    due("WITHIN of four", w.buzzes(0, 100, 1, 0), 100);
+    w.restore();
+    due("WITHIN of the one that is left", w.buzzes(0, 100, 1, 0), 25);
     sentence("when THE IMAGE is RESTORED, SHELVES stay as they are");
     FiddleBuzz y = with("p100 1 10;t00 50 0 7;");
     y.image();
