@@ -1284,7 +1284,8 @@ public final class FiddleBuzz {
         }
 
         private int lossNow(int piece, Setting at) {
-            Piece p = pieceAt(piece);
+            // Not by pieceAt, for calls come deep already where it is asked.
+            Piece p = isPiece(piece) ? pieces[piece] : null;
             return p == null ? 0 : p.lossHeld(at.hand == piece);
         }
 
